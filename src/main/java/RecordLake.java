@@ -662,7 +662,7 @@ public final class RecordLake {
                 return false;
             }
             for (int i = 0; i < extent[v]; i++) {
-                if (told.at(inner[v] + i) != word.charAt(i)) {
+                if ((told.row[inner[v] + i] & 255) != word.charAt(i)) {
                     return false;
                 }
             }
@@ -679,10 +679,6 @@ public final class RecordLake {
                 }
             }
             return true;
-        }
-
-        boolean tellsSame(int v, int other) {
-            return tellsBytes(v, told.row, inner[other], extent[other]);
         }
 
         private int failAt(int where) {

@@ -12,19 +12,24 @@ final class Lakes {
         append(lake, bytes);
     }
 
-    /** Puts bytes behind the tape. The last numbers are filled up and cut away again. */
+    /** Puts bytes behind the tape. The odd ones come first, filled up and cut again: so 4096 can be reached. */
     static void append(RecordLake lake, byte[] bytes) {
-        for (int i = 0; i < bytes.length; i += 20) {
-            int[] n = new int[5];
-            for (int j = 0; j < 20; j++) {
-                int b = i + j < bytes.length ? bytes[i + j] & 255 : ' ';
-                n[j / 4] = n[j / 4] << 8 | b;
-            }
-            int length = lake.feed(n[0], n[1], n[2], n[3], n[4]);
-            if (bytes.length - i < 20) {
-                lake.end(length - 20 + bytes.length - i);
-            }
+        int odd = bytes.length % 20;
+        if (odd > 0) {
+            lake.end(feed(lake, bytes, 0) - 20 + odd);
         }
+        for (int i = odd; i < bytes.length; i += 20) {
+            feed(lake, bytes, i);
+        }
+    }
+
+    private static int feed(RecordLake lake, byte[] bytes, int from) {
+        int[] n = new int[5];
+        for (int j = 0; j < 20; j++) {
+            int b = from + j < bytes.length ? bytes[from + j] & 255 : ' ';
+            n[j / 4] = n[j / 4] << 8 | b;
+        }
+        return lake.feed(n[0], n[1], n[2], n[3], n[4]);
     }
 
     static void tape(RecordLake lake, String text) {
