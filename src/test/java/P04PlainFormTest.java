@@ -33,7 +33,40 @@ public final class P04PlainFormTest {
                 "[{\"name\":\"F\",\"type\":\"fixed\",\"size\":1},{\"type\":\"array\",\"items\":\"F\"},"
                 + "{\"type\":\"map\",\"values\":[\"null\",\"F\"]}]");
         fault();
+        again();
         CHECK.finish("P04PlainFormTest");
+    }
+
+    /** What a text brought is gone with it: the room does not fill up. */
+    private static void again() {
+        RecordLake lake = new RecordLake();
+        String many = "[" + Lakes.repeat("{\"type\":\"fixed\",\"name\":\"NameOfFixed#\",\"size\":1}", 16, ",") + "]";
+        String symbols = "{\"type\":\"enum\",\"name\":\"E\",\"symbols\":[" + Lakes.repeat("\"s#\"", 32, ",") + "]}";
+        Lakes.tape(lake, many);
+        for (int i = 0; i < 400; i++) {
+            CHECK.same("schema() again", lake.schema(), 0);
+        }
+        Lakes.tape(lake, symbols);
+        for (int i = 0; i < 400; i++) {
+            CHECK.same("schema() again", lake.schema(), 0);
+        }
+        CHECK.same("register", lake.register(0), 0);
+        Lakes.tape(lake, many);
+        for (int i = 0; i < 400; i++) {
+            CHECK.same("UNFIT again", lake.register(0), RecordLake.UNFIT);
+        }
+        lake.end(lake.feed(0, 0, 0, 0, 0) - 19);
+        for (int i = 0; i < 400; i++) {
+            CHECK.same("a fault again", lake.register(0), -1);
+        }
+        CHECK.same("register", Lakes.register(lake, 1, many), 0);
+        for (int i = 0; i < 100; i++) {
+            lake.power(0);
+            Lakes.load(lake, 0, 0, 2);
+            CHECK.same("start again", lake.start(), 2);
+        }
+        CHECK.same("register", Lakes.register(lake, 2, many), 0);
+        CHECK.yes("fits", lake.fits(1, 0, 2, 0));
     }
 
     private static void fault() {

@@ -76,6 +76,8 @@ public final class P04TextFaultTest {
         sound("\t\r\n \"int\"\t\r\n ", 0);
         sound(" { \"type\" : \"array\" , \"items\" : [ \"int\" , \"null\" ] } ", 0);
         sound("[true , false,null]", 2);
+        sound("{ }", 7);
+        sound("[ \n]", 5);
     }
 
     private static void strings() {
@@ -93,6 +95,13 @@ public final class P04TextFaultTest {
         faulty("\"\\u0100", 1);
         faulty("\"\\u010x", 6);
         faulty("\"\\u0100\u0001", 1);
+        faulty("{\"\\u0100\":1}", 2);
+        sound("\"\\u00aA\\u00Ff\\u0009\"", 3);
+        faulty("\"\\u00`0\"", 5);
+        faulty("\"\\u00@0\"", 5);
+        faulty("\"\\u00G0\"", 5);
+        faulty("\"\\u00/0\"", 5);
+        faulty("\"\\u00:0\"", 5);
         sound("\"\\u00ff\\u00FF\\u0000\\\"\\\\\\/\\b\\f\\n\\r\\t ~\"", 3);
         sound("\"\\u0069\\u006E\\u0074\"", 0);
         CHECK.same("an escaped word's plain form", Lakes.plain(LAKE), "\"int\"");

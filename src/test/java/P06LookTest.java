@@ -168,6 +168,15 @@ public final class P06LookTest {
         fault(6, 2, 160, 31, 1);
         rows(2, 160, 31, 0, 160, 31, 0);
         fault(6, 6, 158, 31, 2, 0, 160, 31, 2);
+        // 2000 blocks of one item each are the most there can be.
+        as("{\"type\":\"array\",\"items\":\"boolean\"}");
+        byte[] most = new byte[4001];
+        for (int i = 0; i < 4000; i++) {
+            most[i] = (byte) (i % 2 == 0 ? 2 : 1);
+        }
+        rows(1, most);
+        fault(6, 4000, Lakes.join(Arrays.copyOf(most, 4000), Lakes.bytes(2, 1, 0)));
+        fault(1, 4000, Arrays.copyOf(most, 4000));
     }
 
     /** Items of all arrays and maps of a row count, however they lie in one another. */

@@ -197,6 +197,12 @@ public final class P09ReadTest {
         Lakes.register(third, 1, w);
         Lakes.load(third, 1, 1, Lakes.join(Lakes.varint(4000), most, Lakes.bytes(2, 0)));
         CHECK.same("FULL before UNRESOLVED", third.read(1, 0, 0), RecordLake.FULL);
+        // No branch matches: not even the branch's number is told.
+        RecordLake fourth = new RecordLake();
+        Lakes.register(fourth, 1, R + "{\"name\":\"s\",\"type\":\"string\"}," + d + ",{\"name\":\"u\",\"type\":[\"null\",\"int\"]}]}");
+        Lakes.register(fourth, 1, w.replace("[\"int\",", "[\"null\",\"int\","));
+        Lakes.load(fourth, 1, 1, Lakes.join(Lakes.varint(4000), most, Lakes.bytes(4, 0)));
+        CHECK.same("no branch behind 4096", fourth.read(1, 0, 0), RecordLake.UNRESOLVED);
         unresolved();
     }
 

@@ -66,6 +66,35 @@ public final class P11CompactTest {
         CHECK.same("no more: int is not long", lake.compact(0), 0);
         Lakes.load(lake, 0, 0, 8);
         CHECK.same("only next to each other", lake.compact(0), 0);
+        // As long, but not the same.
+        RecordLake other = new RecordLake();
+        Lakes.register(other, 0, "{\"type\":\"enum\",\"name\":\"E\",\"symbols\":[\"a\",\"b\"]}");
+        Lakes.register(other, 0, "{\"type\":\"enum\",\"name\":\"E\",\"symbols\":[\"b\",\"a\"]}");
+        Lakes.load(other, 0, 0, 0);
+        Lakes.load(other, 0, 1, 0);
+        CHECK.same("other symbols", other.compact(0), 0);
+        shifted();
+    }
+
+    /** What comes behind the file that goes moves up, with all that is told of it. */
+    private static void shifted() {
+        RecordLake lake = new RecordLake();
+        Lakes.register(lake, 0, "\"int\"");
+        Lakes.load(lake, 0, 0, 2);
+        Lakes.load(lake, 0, 0, 4);
+        Lakes.register(lake, 1, "\"boolean\"");
+        Lakes.register(lake, 1, "[\"null\",\"boolean\"]");
+        Lakes.load(lake, 1, 1, Lakes.many(300, 0));
+        Lakes.load(lake, 1, 0, Lakes.many(20, 1));
+        CHECK.same("compact", lake.compact(0), 1);
+        int[][] due = {{0, 0, 2, 5, -1}, {0, 0, 10, 23, 2}, {1, 0, 5, 9, -1}, {1, 1, 6, 18, -1}, {1, 1, 7, 323, 300}, {1, 0, 9, 41, 20}};
+        for (int k = 0; k < due.length; k++) {
+            for (int what = 0; what < 5; what++) {
+                CHECK.same("file(" + k + ", " + what + ")", lake.file(k, what), due[k][what]);
+            }
+        }
+        lake.read(1, 1, 319);
+        CHECK.same("a row of the last", Lakes.out(lake), "2 1");
     }
 
     private static void tooLong() {

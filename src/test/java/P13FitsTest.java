@@ -12,6 +12,7 @@ public final class P13FitsTest {
         records();
         recursive();
         doubling();
+        late();
         CHECK.finish("P13FitsTest");
     }
 
@@ -99,6 +100,7 @@ public final class P13FitsTest {
         String e = "{\"type\":\"enum\",\"name\":\"E\",\"symbols\":[\"a\",\"b\"]}";
         yes(e, e.replace("\"a\",\"b\"", "\"c\",\"b\",\"a\""));
         no(e, e.replace(",\"b\"", ""));
+        no(e, e.replace("\"a\",", ""));
         yes(e, e.replace(",\"b\"]", "],\"default\":\"a\""));
         no(e, e.replace("E", "E1").replace("]", "],\"default\":\"a\""));
         no(e, e.replace("E", "Ea"));
@@ -136,6 +138,23 @@ public final class P13FitsTest {
         // What does not fit lies behind a pair that is being asked for.
         no(record("{\"name\":\"n\",\"type\":[\"null\",\"R\"]},{\"name\":\"v\",\"type\":\"long\"}"),
                 record("{\"name\":\"n\",\"type\":[\"null\",\"R\"]},{\"name\":\"v\",\"type\":\"int\"}"));
+    }
+
+    /** Versions that come behind many others are held against each other just so. */
+    private static void late() {
+        RecordLake lake = new RecordLake();
+        String many = "[" + Lakes.repeat("{\"type\":\"fixed\",\"name\":\"F#\",\"size\":1}", 16, ",") + "]";
+        for (int i = 0; i < 14; i++) {
+            CHECK.same("register", Lakes.register(lake, 0, many), i);
+        }
+        CHECK.same("register", Lakes.register(lake, 1, record("{\"name\":\"n\",\"type\":[\"null\",\"R\"]}")), 0);
+        CHECK.same("register", Lakes.register(lake, 1, record("{\"name\":\"n\",\"type\":[\"R\",\"null\"]}")), 1);
+        CHECK.same("register", Lakes.register(lake, 2, record("{\"name\":\"n\",\"type\":[\"R\"]}")), 0);
+        CHECK.yes("1 0 fits 1 1", lake.fits(1, 0, 1, 1));
+        CHECK.no("1 0 fits 2 0", lake.fits(1, 0, 2, 0));
+        CHECK.yes("2 0 fits 1 0", lake.fits(2, 0, 1, 0));
+        CHECK.yes("0 0 fits 0 13", lake.fits(0, 0, 0, 13));
+        CHECK.no("0 13 fits 1 0", lake.fits(0, 13, 1, 0));
     }
 
     /** Each record has the one before it six times: 6^15 ways, but few pairs. */
