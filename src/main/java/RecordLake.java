@@ -17,6 +17,7 @@ public final class RecordLake {
     private static final int BLOCKS = 128;
     private static final int BLOCK_BYTES = 256;
     private static final int FIRST_FILE_BLOCK = 2;
+    // What stands in a file of rows before and behind them is free: it has zeros there, and nothing reads them.
     private static final int HEAD_BYTES = 11;
     private static final int TAIL_BYTES = 8;
     private static final int MOST_POWER = 1000;
@@ -147,7 +148,7 @@ public final class RecordLake {
         int writer = schemas.rootOf(subject, list.version[k]);
         openRows(k);
         for (int n = list.rowsBefore(k); n < i; n++) {
-            teller.skip(writer, 0);
+            teller.skipRow(writer);
         }
         out.length = 0;
         int told = teller.tell(writer, schemas.rootOf(subject, version), out);
@@ -2082,7 +2083,7 @@ public final class RecordLake {
             question++;
             asked = 0;
             ask(w, r);
-            for (int i = 0; i < asked; i++) {
+            for (int i = 0; i < asked && i < pairs.length; i++) {
                 int asWriter = schemaOf(pairs[i] / MOST_LOCAL, writerBase);
                 int asReader = schemaOf(pairs[i] % MOST_LOCAL, readerBase);
                 if (!isPairFitting(asWriter, asReader)) {
@@ -2187,8 +2188,12 @@ public final class RecordLake {
             limit = behind;
         }
 
+        void skipRow(int s) {
+            skip(s, 0);
+        }
+
         /** Goes behind a datum: as it is NORMAL, nothing in it is looked at again. */
-        void skip(int s, int depth) {
+        private void skip(int s, int depth) {
             if (depth >= MOST_DEPTH) {
                 return;
             }
@@ -2394,7 +2399,9 @@ public final class RecordLake {
             for (int i = 0; i < written; i++) {
                 bytes[block * BLOCK_BYTES + i] = (byte) Math.max(0, content.at(from + i));
             }
-            if (untilLoss != NONE) {
+            if (isTorn) {
+                untilLoss = NONE;
+            } else if (untilLoss != NONE) {
                 untilLoss--;
             }
             return !isTorn;

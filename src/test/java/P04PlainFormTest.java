@@ -60,7 +60,7 @@ public final class P04PlainFormTest {
             CHECK.same("a fault again", lake.register(0), -1);
         }
         CHECK.same("register", Lakes.register(lake, 1, many), 0);
-        for (int i = 0; i < 100; i++) {
+        for (int i = 0; i < 400; i++) {
             lake.power(0);
             Lakes.load(lake, 0, 0, 2);
             CHECK.same("start again", lake.start(), 2);
