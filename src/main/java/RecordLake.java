@@ -236,7 +236,7 @@ public final class RecordLake {
             return 0;
         }
         needVersion(subject, version);
-        return forms.printOfSchema(schemas.rootOf(subject, version));
+        return forms.printOf(schemas.rootOf(subject, version));
     }
 
     public int letter(int i, int what) throws IndexOutOfBoundsException, IllegalArgumentException {
@@ -1666,22 +1666,18 @@ public final class RecordLake {
             schemas = allSchemas;
         }
 
-        static long printOf(byte[] bytes, int first, int n) {
+        long printOf(int s) {
+            one.length = 0;
+            writeTo(one, s);
             long p = PRINT_OF_NOTHING;
-            for (int i = 0; i < n; i++) {
-                p ^= bytes[first + i] & 255;
+            for (int i = 0; i < one.length; i++) {
+                p ^= one.at(i);
                 // Eight steps of the whole do what T does for the lowest byte, and shift the others.
                 for (int bit = 0; bit < 8; bit++) {
                     p = (p & 1) == 0 ? p >>> 1 : (p >>> 1) ^ PRINT_OF_NOTHING;
                 }
             }
             return p;
-        }
-
-        long printOfSchema(int s) {
-            one.length = 0;
-            writeTo(one, s);
-            return printOf(one.row, 0, one.length);
         }
 
         boolean isSame(int s, int other) {
@@ -2410,11 +2406,13 @@ public final class RecordLake {
 
     /** The list of all files, in memory and in its block. */
     private static final class FileList {
-        // The block: which list this is, how many files it has, six bytes for each, and the print of all that.
-        private static final int COUNT_AT = 4;
-        private static final int FILES_AT = 5;
+        // The block: which list this is, how many files it has, six bytes for each, and which list this is once
+        // more. The block has never held a list of this number: torn, it tells two numbers, whatever files there
+        // are. (A print of the files would not do: two lists can have the same.)
+        private static final int TURN_BYTES = 4;
+        private static final int FILES_AT = TURN_BYTES + 1;
         private static final int FILE_BYTES = 6;
-        private static final int PRINT_AT = FILES_AT + MOST_FILES * FILE_BYTES;
+        private static final int TURN_AGAIN_AT = BLOCK_BYTES - TURN_BYTES;
 
         final int[] owner = new int[MOST_FILES];
         final int[] version = new int[MOST_FILES];
@@ -2485,8 +2483,9 @@ public final class RecordLake {
                 isUsed[b] = b < FIRST_FILE_BLOCK;
             }
             for (int k = 0; k < length; k++) {
-                for (int b = 0; b < Disk.blocksOf(wants[k]); b++) {
-                    isUsed[first[k] + b] = true;
+                int behind = Math.min(BLOCKS, first[k] + Disk.blocksOf(wants[k]));
+                for (int b = first[k]; b < behind; b++) {
+                    isUsed[b] = true;
                 }
             }
             int free = 0;
@@ -2542,7 +2541,7 @@ public final class RecordLake {
         boolean writeTo(Disk disk) {
             turn++;
             block.length = 0;
-            block.putNumber(turn, COUNT_AT);
+            block.putNumber(turn, TURN_BYTES);
             block.put(length);
             for (int k = 0; k < length; k++) {
                 block.put(owner[k] * MOST_VERSIONS + version[k]);
@@ -2550,8 +2549,8 @@ public final class RecordLake {
                 block.putNumber(wants[k], 2);
                 block.putNumber(Math.max(0, rows[k]), 2);
             }
-            block.putZeros(PRINT_AT - block.length);
-            block.putNumber(PlainForm.printOf(block.row, 0, PRINT_AT), 8);
+            block.putZeros(TURN_AGAIN_AT - block.length);
+            block.putNumber(turn, TURN_BYTES);
             return disk.writeBlock(turn % 2, block, 0);
         }
 
@@ -2569,24 +2568,24 @@ public final class RecordLake {
         /** Which list a block holds, or NONE if it is not whole. */
         private static int turnOf(Disk disk, int block) {
             int from = block * BLOCK_BYTES;
-            boolean isWhole = number(disk.bytes, from + PRINT_AT, 8) == PlainForm.printOf(disk.bytes, from, PRINT_AT);
-            return isWhole ? (int) number(disk.bytes, from, COUNT_AT) : NONE;
+            int number = number(disk.bytes, from, TURN_BYTES);
+            return number == number(disk.bytes, from + TURN_AGAIN_AT, TURN_BYTES) ? number : NONE;
         }
 
         private void readFiles(byte[] bytes, int from) {
-            int n = (int) number(bytes, from + COUNT_AT, 1);
+            int n = number(bytes, from + TURN_BYTES, 1);
             for (int k = 0; k < n && k < MOST_FILES; k++) {
                 int at = from + FILES_AT + k * FILE_BYTES;
-                int names = (int) number(bytes, at, 1);
-                int rowsOfIt = (int) number(bytes, at + 4, 2);
+                int names = number(bytes, at, 1);
+                int rowsOfIt = number(bytes, at + 4, 2);
                 // No file of rows is without one.
-                add(names / MOST_VERSIONS, names % MOST_VERSIONS, (int) number(bytes, at + 1, 1),
-                        (int) number(bytes, at + 2, 2), rowsOfIt == 0 ? NONE : rowsOfIt);
+                add(names / MOST_VERSIONS, names % MOST_VERSIONS, number(bytes, at + 1, 1), number(bytes, at + 2, 2),
+                        rowsOfIt == 0 ? NONE : rowsOfIt);
             }
         }
 
-        private static long number(byte[] bytes, int first, int n) {
-            long number = 0;
+        private static int number(byte[] bytes, int first, int n) {
+            int number = 0;
             for (int i = 0; i < n; i++) {
                 number = (number << 8) | (bytes[first + i] & 255);
             }
