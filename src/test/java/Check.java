@@ -1,21 +1,45 @@
+import java.io.IOException;
+import java.nio.file.Files;
+import java.nio.file.Path;
+
 /** Counts answers that are not as due; a test's main ends with finish(). */
 final class Check {
+    private static final Path DOCUMENT = Path.of("..", "shared", "DOC.md");
+
     private int wrong;
     private int asked;
+    private int sentences;
+    private String sentence = "";
+    private String document = "";
+
+    /** The words of the document that the checks behind this are for. They must stand in it just so. */
+    void says(String words) {
+        sentence = "'" + words + "': ";
+        sentences++;
+        yes("the document says it", document().isEmpty() || document().contains(words));
+    }
+
+    /** The document in one line, or nothing where it is not at hand. */
+    private String document() {
+        if (document.isEmpty() && Files.isReadable(DOCUMENT)) {
+            try {
+                document = Files.readString(DOCUMENT).replaceAll("\\s+", " ");
+            } catch (IOException e) {
+                System.out.println("the document cannot be read: " + e);
+            }
+        }
+        return document;
+    }
 
     void same(String what, long got, long due) {
-        asked++;
-        if (got != due) {
-            wrong++;
-            System.out.println(what + " answered " + got + ", due is " + due);
-        }
+        same(what, Long.toString(got), Long.toString(due));
     }
 
     void same(String what, String got, String due) {
         asked++;
         if (!got.equals(due)) {
             wrong++;
-            System.out.println(what + " answered " + got + ", due is " + due);
+            System.out.println(sentence + what + " answered " + got + ", due is " + due);
         }
     }
 
@@ -54,7 +78,8 @@ final class Check {
     }
 
     void finish(String test) {
-        System.out.println(test + ": " + asked + " answers, " + wrong + " not as due");
+        String held = sentences == 0 ? "" : sentences + " sentences, ";
+        System.out.println(test + ": " + held + asked + " answers, " + wrong + " not as due");
         if (wrong != 0) {
             System.exit(1);
         }
