@@ -192,6 +192,14 @@ public final class Edges2DefaultsTest {
         String all = "{ \"name\" : \"R\" , \"type\" : \"record\" , \"fields\" : [ { \"name\" : \"a\" , \"type\" : { \"name\" : \"E\" , \"type\" : \"enum\" , "
                 + "\"symbols\" : [ \"A\" , \"B\" ] } } , { \"name\" : \"b\" , \"type\" : { \"name\" : \"F\" , \"type\" : \"fixed\" , \"size\" : 64 } } ] }";
         ASK.sound(all, all.replace(" ", ""));
+        // As deep as schemas and texts go.
+        String arrays = Lakes.repeat("{\"type\":\"array\",\"items\":", 15, "") + "\"int\"" + Lakes.repeat("}", 15, "");
+        ASK.sound(arrays, arrays);
+        String unions = Lakes.repeat("{\"type\":\"map\",\"values\":[", 7, "") + arrays.substring(24 * 14, 24 * 15 + 6) + Lakes.repeat("]}", 7, "");
+        ASK.sound(unions, unions);
+        String records = Lakes.repeat("{\"name\":\"R#\",\"type\":\"record\",\"fields\":[{\"name\":\"a\",\"type\":", 8, "") + "\"R0\""
+                + Lakes.repeat("}]}", 8, "");
+        ASK.sound(records, records);
         String most = mostBytes();
         ASK.sound(most, most);
         RecordLake full = new RecordLake();

@@ -149,6 +149,7 @@ public final class Edges2SchemasTest {
             ASK.marked(" ~\"" + kind + "\"", 3);
         }
         ASK.marked("~\"\"", 3);
+        letters();
         CHECK.says("the name of a fixed, enum or record that is defined (before it in this text; each text by itself): that; else 3 at v.");
         ASK.sound("[" + fixed("F") + ",{\"type\":\"array\",\"items\":\"F\"}]");
         ASK.marked("[{\"type\":\"array\",\"items\":~\"F\"}," + fixed("F") + "]", 3);
@@ -162,6 +163,36 @@ public final class Edges2SchemasTest {
         CHECK.same("another text has no F", Lakes.register(lake, 0, "\"F\""), -3);
         CHECK.same("nor has one of another subject", Lakes.register(lake, 1, "\"F\""), -3);
         CHECK.same("it may define its own", Lakes.register(lake, 0, fixed("F")), 1);
+    }
+
+    /** A word with one letter changed is another, wherever in it that is. */
+    private static void letters() {
+        for (String word : WORDS) {
+            for (int i = 0; i < word.length(); i++) {
+                ASK.marked("~\"" + changed(word, i) + "\"", 3);
+                ASK.marked("{\"type\":~\"" + changed(word, i) + "\"}", 3);
+            }
+        }
+        String[] texts = {"{\"type\":\"array\",\"items\":\"int\"}", "{\"type\":\"map\",\"values\":\"int\"}", fixed("F"),
+            "{\"type\":\"enum\",\"name\":\"E\",\"symbols\":[\"a\"]}", "{\"type\":\"record\",\"name\":\"R\",\"fields\":[]}"};
+        String[][] members = {{"type", "items"}, {"type", "values"}, {"type", "name", "size"}, {"type", "name", "symbols"}, {"type", "name", "fields"}};
+        for (int k = 0; k < KINDS.length; k++) {
+            for (int i = 0; i < KINDS[k].length(); i++) {
+                ASK.marked(texts[k].replace("\"" + KINDS[k], "~\"" + changed(KINDS[k], i)), 3);
+            }
+            for (String member : members[k]) {
+                for (int i = 0; i < member.length(); i++) {
+                    ASK.marked("~" + texts[k].replace("\"" + member, "\"" + changed(member, i)), member.equals("type") ? 7 : 8);
+                }
+            }
+        }
+        for (int i = 0; i < 7; i++) {
+            ASK.sound(record("{\"name\":\"a\",\"type\":\"int\",\"" + changed("default", i) + "\":null}"));
+        }
+    }
+
+    private static String changed(String word, int i) {
+        return word.substring(0, i) + "X" + word.substring(i + 1);
     }
 
     private static void unions() {
@@ -291,7 +322,7 @@ public final class Edges2SchemasTest {
             "false", "null", "\"1\"", "[]", "[1]", "{}"}) {
             ASK.marked(text.replace("#", size), 10);
         }
-        for (String size : new String[] {"0", "-0", "1", "63", "64"}) {
+        for (String size : new String[] {"0", "-0", "1", "9", "10", "11", "19", "20", "63", "64"}) {
             ASK.sound(text.replace("~#", size), "{\"name\":\"F\",\"type\":\"fixed\",\"size\":" + size.replace("-", "") + "}");
         }
     }

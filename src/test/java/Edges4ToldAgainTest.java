@@ -15,6 +15,8 @@ public final class Edges4ToldAgainTest {
         symbols();
         fields();
         defaults();
+        deepRows();
+        rowsBehindRows();
         matches();
         fitsUnions();
         fitsRest();
@@ -249,11 +251,82 @@ public final class Edges4ToldAgainTest {
         defaulted("\"long\"", "-9223372036854775808", "255 255 255 255 255 255 255 255 255 1");
         defaulted("\"null\"", "null", "");
         defaulted("\"boolean\"", "false", "0");
+        defaulted("\"boolean\"", "true", "1");
         defaulted(FIXED, "\"\\u0000\\u00ff\"", "0 255");
         defaulted(ENUM, "\"b\"", "2");
         String inner = "{\"type\":\"record\",\"name\":\"S\",\"fields\":[" + field("p", "\"int\"", "9") + "," + field("q", "[\"null\"]") + "]}";
         defaulted(inner, "{\"q\":null,\"o\":1,\"p\":3}", "6 0");
         defaulted("[" + inner + "]", "{\"q\":null,\"p\":3}", "0 6 0");
+        // Nearly as deep as a text goes: six are around it, and it has 17 of a record that has itself.
+        String deep = Lakes.repeat("[{\"d\":", 8, "") + "[]" + Lakes.repeat("}]", 8, "");
+        defaulted(array("\"R\""), deep, Lakes.repeat("2", 8, " ") + Lakes.repeat(" 0", 9, ""));
+    }
+
+    /** Rows that lie as deep as they can, told again with their fields in another order, and what comes behind them. */
+    private static void deepRows() {
+        CHECK.says("7 a datum that lies in 32 others");
+        String list = "{\"type\":\"record\",\"name\":\"L\",\"fields\":[#]}";
+        String[] fields = {field("v", "\"boolean\""), field("n", "[\"null\",\"L\"]")};
+        String w = list.replace("#", fields[0] + "," + fields[1]);
+        String r = list.replace("#", fields[1] + "," + fields[0]);
+        // Record 2 k, its fields 2 k + 1, the null 2 k + 2: with 15 records it lies in 30.
+        byte[] row = Lakes.join(alternate(1, 2, 14), Lakes.bytes(1, 0));
+        String due = Lakes.repeat("2", 14, " ") + " 0" + Lakes.repeat(" 1", 15, "");
+        rowsTold(w, r, due, row);
+        String items = list.replace("#", field("v", "\"boolean\"") + "," + field("n", array("\"L\"")));
+        String back = list.replace("#", field("n", array("\"L\"")) + "," + field("v", "\"boolean\""));
+        // The 16th array lies in 31.
+        rowsTold(items, back, Lakes.repeat("2", 15, " ") + " 0 1" + Lakes.repeat(" 0 1", 15, ""),
+                Lakes.join(alternate(1, 2, 15), Lakes.bytes(1), Lakes.many(16, 0)));
+        rowsTold(items.replace("array", "map").replace("items", "values"), back.replace("array", "map").replace("items", "values"),
+                Lakes.repeat("2 0", 15, " ") + " 0 1" + Lakes.repeat(" 0 1", 15, ""),
+                Lakes.join(three(15), Lakes.bytes(1), Lakes.many(16, 0)));
+    }
+
+    private static byte[] alternate(int one, int other, int times) {
+        byte[] row = new byte[2 * times];
+        for (int i = 0; i < row.length; i++) {
+            row[i] = (byte) (i % 2 == 0 ? one : other);
+        }
+        return row;
+    }
+
+    /** A boolean, a block of one item and its empty key. */
+    private static byte[] three(int times) {
+        byte[] row = new byte[0];
+        for (int i = 0; i < times; i++) {
+            row = Lakes.join(row, Lakes.bytes(1, 2, 0));
+        }
+        return row;
+    }
+
+    /** Three rows as they stand, without a record around them: each is told again, and found behind the others. */
+    private static void rowsTold(String w, String r, String due, byte[] row) {
+        RecordLake lake = new RecordLake();
+        CHECK.same("register " + w, Lakes.register(lake, 0, w), 0);
+        CHECK.same("register " + r, Lakes.register(lake, 0, r), 1);
+        CHECK.same("load", Lakes.load(lake, 0, 0, Lakes.join(row, row, row)), 3);
+        CHECK.same("copy", lake.copy(0, 0, 1), 3);
+        for (int i = 0; i < 6; i++) {
+            CHECK.same("read " + i, lake.read(0, 1, i), due.split(" ").length);
+            CHECK.same("OUT of " + i, Lakes.out(lake), due);
+        }
+        CHECK.same("read as it was", lake.read(0, 0, 2), row.length);
+        CHECK.same("OUT as it was", Lakes.out(lake), Lakes.numbers(row));
+    }
+
+    private static void rowsBehindRows() {
+        CHECK.says("all of them in order are a new file of that table");
+        rowsTold(array("\"int\""), array("\"long\""), "4 2 4 0", Lakes.bytes(4, 2, 4, 0));
+        rowsTold(array(array("\"int\"")), array(array("[\"int\"]")), "4 2 0 8 0 4 0 8 0 6 0 0", Lakes.bytes(4, 2, 8, 0, 4, 8, 6, 0, 0));
+        rowsTold(map(map("\"int\"")), map(map("\"long\"")), "4 0 2 0 8 0 0 0 0", Lakes.bytes(4, 0, 2, 0, 8, 0, 0, 0, 0));
+        String two = record(field("a", "\"int\"") + "," + field("b", "\"int\""));
+        String back = record(field("b", "\"int\"") + "," + field("a", "\"int\""));
+        rowsTold(two, back, "4 2", Lakes.bytes(2, 4));
+        rowsTold(two, record(field("a", "\"int\"")), "2", Lakes.bytes(2, 4));
+        rowsTold(array(two), array(back), "4 4 2 8 6 0", Lakes.bytes(4, 2, 4, 6, 8, 0));
+        rowsTold(array(two), array(record(field("a", "\"int\""))), "4 2 6 0", Lakes.bytes(4, 2, 4, 6, 8, 0));
+        rowsTold("[\"null\",\"int\"]", "[\"int\",\"null\"]", "0 8", Lakes.bytes(2, 8));
     }
 
     private static void matches() {
@@ -279,6 +352,17 @@ public final class Edges4ToldAgainTest {
         told(array(ENUM), "[" + array(ENUM.replace("E", "D")) + "]", UNRESOLVED, 0);
         told(array(record("")), "[" + array(record(field("x", "\"int\""))) + "]", "0 0", 0);
         told(array(record("")), "[" + array(record("").replace("R", "S")) + "]", UNRESOLVED, 0);
+        // As deep as schemas go: the union, 14 arrays and what is in the last.
+        String deep = Lakes.repeat("{\"type\":\"array\",\"items\":", 14, "") + "#" + Lakes.repeat("}", 14, "");
+        RecordLake lake = new RecordLake();
+        Lakes.register(lake, 0, deep.replace("#", "\"int\""));
+        Lakes.register(lake, 1, "[" + deep.replace("#", "\"long\"") + "]");
+        Lakes.register(lake, 2, "[" + deep.replace("#", "\"string\"") + "]");
+        Lakes.load(lake, 0, 0, 0);
+        CHECK.same("items of items that match", lake.copy(0, 1, 0), 1);
+        CHECK.same("items of items that do not", lake.copy(0, 2, 0), RecordLake.UNRESOLVED);
+        CHECK.yes("fits", lake.fits(0, 0, 1, 0));
+        CHECK.no("fits", lake.fits(0, 0, 2, 0));
         // The branch that matches is not the first of its kind there could be: arrays stand but once in a union.
         told(array("\"int\""), "[\"int\"," + map("\"int\"") + "," + array("\"int\"") + "]", "4 0", 0);
     }

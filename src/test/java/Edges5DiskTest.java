@@ -14,6 +14,7 @@ public final class Edges5DiskTest {
         most();
         full();
         compactForms();
+        movedUp();
         compactBytes();
         compactPlace();
         copies();
@@ -294,11 +295,51 @@ public final class Edges5DiskTest {
         CHECK.same("rows", lake.file(7, 4), 3);
         CHECK.same("no more", lake.compact(0), 0);
         CHECK.same("the other subject has one", lake.compact(1), 0);
+        // Plain forms of the same length are not the same.
+        RecordLake other = new RecordLake();
+        String e = "{\"type\":\"enum\",\"name\":\"E\",\"symbols\":[\"a\",\"b\"]}";
+        Lakes.register(other, 0, e);
+        Lakes.register(other, 0, e.replace("\"a\",\"b\"", "\"b\",\"a\""));
+        Lakes.load(other, 0, 0, 0);
+        Lakes.load(other, 0, 1, 0);
+        CHECK.same("as long, but not the same", other.compact(0), 0);
         int[] due = {2, 4, 6, 8, 12, 14};
         for (int i = 0; i < 6; i++) {
             lake.read(0, 2, i);
             CHECK.same("row " + i, lake.letter(0, 1), due[i]);
         }
+    }
+
+    /** What comes behind a file that goes moves up by one, with all that is told of it. */
+    private static void movedUp() {
+        CHECK.says("stands in the first one's place");
+        RecordLake lake = booleans(0);
+        load(lake, 0, 63);
+        load(lake, 0, 1);
+        Lakes.register(lake, 1, "\"boolean\"");
+        Lakes.register(lake, 1, "[\"null\",\"boolean\"]");
+        Lakes.load(lake, 1, 1, 0, 2, 1);
+        Lakes.load(lake, 1, 0, 1);
+        CHECK.same("compact", lake.compact(0), 1);
+        // 64 rows: both varints want a byte more than those of 63.
+        int[][] due = {{0, 0, 2, 9, -1}, {0, 0, 9, 87, 64}, {1, 0, 5, 9, -1}, {1, 1, 6, 18, -1}, {1, 1, 7, 24, 2}, {1, 0, 8, 22, 1}};
+        for (int k = 0; k < due.length; k++) {
+            for (int what = 0; what < 5; what++) {
+                CHECK.same("file(" + k + ", " + what + ")", lake.file(k, what), due[k][what]);
+            }
+        }
+        lake.read(1, 1, 2);
+        CHECK.same("a row of the last", Lakes.out(lake), "2 1");
+        CHECK.same("clear", lake.clear(0), 64);
+        for (int k = 1; k < 5; k++) {
+            for (int what = 0; what < 5; what++) {
+                CHECK.same("file(" + k + ", " + what + ") then", lake.file(k, what), due[k + 1][what]);
+            }
+        }
+        CHECK.same("the last table", lake.clear(1), 3);
+        CHECK.index("its rows are gone", () -> lake.read(1, 1, 0));
+        CHECK.same("there are none to copy", lake.copy(1, 1, 1), RecordLake.EMPTY);
+        CHECK.same("nor to compact", lake.compact(1), 0);
     }
 
     private static void compactBytes() {

@@ -406,6 +406,37 @@ public final class Edges6CallsTest {
             CHECK.same("size(0)", lake.size(0), i == 0 ? 5 : 0);
         }
         CHECK.same("no version", lake.count(0, 0), 0);
+        refusedTexts();
+    }
+
+    /** Texts that are only looked at, or refused, leave all versions as they are. */
+    private static void refusedTexts() {
+        CHECK.says("(With a fault, UNFIT, FULL, DOWN the tape stays; with LOST it is empty.)");
+        String r = "{\"type\":\"record\",\"name\":\"R\",\"fields\":[{\"name\":\"a\",\"type\":[\"null\",\"int\"]},"
+                + "{\"name\":\"b\",\"type\":{\"type\":\"enum\",\"name\":\"E\",\"symbols\":[\"x\",\"y\"]}}#]}";
+        String more = r.replace("#", ",{\"name\":\"c\",\"type\":\"string\",\"default\":\"see\"}");
+        RecordLake lake = new RecordLake();
+        Lakes.register(lake, 0, r.replace("#", ""));
+        Lakes.register(lake, 0, more);
+        Lakes.load(lake, 0, 0, 2, 8, 2, 0, 0);
+        Lakes.register(lake, 1, more.replace("see", "saw"));
+        String before = Snapshot.of(lake);
+        String other = "[" + Lakes.repeat("{\"type\":\"enum\",\"name\":\"E#\",\"symbols\":[\"p\",\"q\",\"r\"]}", 9, ",") + ",{\"type\":\"record\","
+                + "\"name\":\"S\",\"fields\":[{\"name\":\"d\",\"type\":\"bytes\",\"default\":\"other\"}]}]";
+        String[] texts = {other, other + "?", other.replace("\"other\"", "1"), other.replace("\"bytes\"", "\"foo\""), more.replace("]}", "]")};
+        int[] faults = {0, 1, 12, 3, 1};
+        for (int i = 0; i < texts.length; i++) {
+            Lakes.tape(lake, texts[i]);
+            CHECK.same("schema()", lake.schema(), faults[i]);
+            CHECK.same("versions and rows", Snapshot.of(lake), before);
+            CHECK.same("register", lake.register(0), i == 0 ? RecordLake.UNFIT : -faults[i]);
+            CHECK.same("versions and rows", Snapshot.of(lake), before);
+        }
+        CHECK.same("then another version", Lakes.register(lake, 0, more.replace("see", "new")), 2);
+        lake.read(0, 2, 0);
+        CHECK.same("its default", Lakes.out(lake), "2 8 2 6 110 101 119");
+        lake.read(0, 1, 0);
+        CHECK.same("the default before", Lakes.out(lake), "2 8 2 6 115 101 101");
     }
 
     private static void places() {
