@@ -197,6 +197,9 @@ public final class Edges2DefaultsTest {
         ASK.sound(arrays, arrays);
         String unions = Lakes.repeat("{\"type\":\"map\",\"values\":[", 7, "") + arrays.substring(24 * 14, 24 * 15 + 6) + Lakes.repeat("]}", 7, "");
         ASK.sound(unions, unions);
+        String both = Lakes.repeat("{\"name\":\"R#\",\"type\":\"record\",\"fields\":[{\"name\":\"a\",\"type\":", 7, "")
+                + arrays.substring(24 * 12, 24 * 15 + 8) + Lakes.repeat("}]}", 7, "");
+        ASK.sound(both, both);
         String records = Lakes.repeat("{\"name\":\"R#\",\"type\":\"record\",\"fields\":[{\"name\":\"a\",\"type\":", 8, "") + "\"R0\""
                 + Lakes.repeat("}]}", 8, "");
         ASK.sound(records, records);

@@ -257,9 +257,19 @@ public final class Edges4ToldAgainTest {
         String inner = "{\"type\":\"record\",\"name\":\"S\",\"fields\":[" + field("p", "\"int\"", "9") + "," + field("q", "[\"null\"]") + "]}";
         defaulted(inner, "{\"q\":null,\"o\":1,\"p\":3}", "6 0");
         defaulted("[" + inner + "]", "{\"q\":null,\"p\":3}", "0 6 0");
-        // Nearly as deep as a text goes: six are around it, and it has 17 of a record that has itself.
-        String deep = Lakes.repeat("[{\"d\":", 8, "") + "[]" + Lakes.repeat("}]", 8, "");
-        defaulted(array("\"R\""), deep, Lakes.repeat("2", 8, " ") + Lakes.repeat(" 0", 9, ""));
+        deepDefault();
+    }
+
+    /** As deep as a text goes: three are around it, and it has 21 of a record that has itself. */
+    private static void deepDefault() {
+        RecordLake lake = new RecordLake();
+        Lakes.register(lake, 0, record(field("z", "\"boolean\"")));
+        Lakes.load(lake, 0, 0, 1);
+        String deep = Lakes.repeat("[{\"d\":", 10, "") + "#" + Lakes.repeat("}]", 10, "");
+        CHECK.same("register", Lakes.register(lake, 0, record(field("d", array("\"R\""), deep.replace("#", "[]")))), 1);
+        CHECK.same("read", lake.read(0, 1, 0), 21);
+        CHECK.same("OUT", Lakes.out(lake), Lakes.repeat("2", 10, " ") + Lakes.repeat(" 0", 11, ""));
+        CHECK.same("one deeper", Lakes.register(lake, 0, record(field("d", array("\"R\""), deep.replace("#", "[{}]")))), -1);
     }
 
     /** Rows that lie as deep as they can, told again with their fields in another order, and what comes behind them. */
