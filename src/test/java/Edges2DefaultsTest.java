@@ -188,6 +188,21 @@ public final class Edges2DefaultsTest {
                 "[{\"name\":\"F\",\"type\":\"fixed\",\"size\":1},{\"type\":\"array\",\"items\":\"F\"},{\"type\":\"map\",\"values\":\"F\"}]");
         ASK.sound("{\"fields\":[{\"type\":[\"null\",\"R\"],\"name\":\"a\"}],\"name\":\"R\",\"type\":\"record\"}",
                 "{\"name\":\"R\",\"type\":\"record\",\"fields\":[{\"name\":\"a\",\"type\":[\"null\",\"R\"]}]}");
+        CHECK.says("the six words as \"int\"; array {\"type\":\"array\",\"items\":X}; map {\"type\":\"map\",\"values\":X}; union [X,Y]");
+        for (String word : new String[] {"null", "boolean", "int", "long", "bytes", "string"}) {
+            ASK.sound("{\"type\":\"" + word + "\",\"doc\":0}", "\"" + word + "\"");
+        }
+        ASK.sound("{\"items\":{\"type\":\"int\"},\"type\":\"array\"}", "{\"type\":\"array\",\"items\":\"int\"}");
+        ASK.sound("{\"values\":{\"type\":\"int\"},\"type\":\"map\"}", "{\"type\":\"map\",\"values\":\"int\"}");
+        ASK.sound("[ {\"type\":\"int\"} ]", "[\"int\"]");
+        ASK.sound("[ \"int\" , {\"type\":\"long\"},\"null\" ]", "[\"int\",\"long\",\"null\"]");
+        CHECK.says("ENUM {\"name\":\"N\",\"type\":\"enum\",\"symbols\":[\"A\",\"B\"]}");
+        ASK.sound("{\"default\":\"B\",\"symbols\":[\"A\",\"\\u0042\"],\"type\":\"enum\",\"name\":\"N\"}",
+                "{\"name\":\"N\",\"type\":\"enum\",\"symbols\":[\"A\",\"B\"]}");
+        CHECK.says("RECORD {\"name\":\"N\",\"type\":\"record\",\"fields\":[{\"name\":\"A\",\"type\":X},{\"name\":\"B\",\"type\":Y}]}");
+        ASK.sound("{\"fields\":[{\"default\":1,\"type\":\"int\",\"name\":\"A\"},{\"type\":[\"null\"],\"name\":\"B\"}],\"name\":\"N\",\"type\":\"record\"}",
+                "{\"name\":\"N\",\"type\":\"record\",\"fields\":[{\"name\":\"A\",\"type\":\"int\"},{\"name\":\"B\",\"type\":[\"null\"]}]}");
+        ASK.sound("{\"fields\":[ ],\"name\":\"N\",\"type\":\"record\"}", "{\"name\":\"N\",\"type\":\"record\",\"fields\":[]}");
         CHECK.says("PLAIN FORM: without blanks");
         String all = "{ \"name\" : \"R\" , \"type\" : \"record\" , \"fields\" : [ { \"name\" : \"a\" , \"type\" : { \"name\" : \"E\" , \"type\" : \"enum\" , "
                 + "\"symbols\" : [ \"A\" , \"B\" ] } } , { \"name\" : \"b\" , \"type\" : { \"name\" : \"F\" , \"type\" : \"fixed\" , \"size\" : 64 } } ] }";

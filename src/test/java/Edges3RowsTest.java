@@ -11,6 +11,8 @@ public final class Edges3RowsTest {
     public static void main(String[] args) {
         words();
         varints();
+        numbers();
+        choicesAndFields();
         sizes();
         blocks();
         lacking();
@@ -90,6 +92,42 @@ public final class Edges3RowsTest {
             }
         }
         CHECK.same("the least one has ten", Lakes.numbers(Lakes.varint(Long.MIN_VALUE)), "255 255 255 255 255 255 255 255 255 1");
+    }
+
+    private static void numbers() {
+        CHECK.says("INT, LONG: a VARINT: of v the number 2 v (v not below 0), else -2 v - 1");
+        long[] all = {0, -1, 1, -2, 63, -64, 64, -65, 2147483647, -2147483648};
+        String[] due = {"0", "1", "2", "3", "126", "127", "128 1", "129 1", "254 255 255 255 15", "255 255 255 255 15"};
+        for (int i = 0; i < all.length; i++) {
+            RecordLake lake = new RecordLake();
+            Lakes.register(lake, 0, record("R", "z", "\"boolean\""));
+            Lakes.load(lake, 0, 0, 1);
+            for (String word : new String[] {"int", "long"}) {
+                String text = record("R", "a", "\"" + word + "\"").replace("}]", ",\"default\":" + all[i] + "}]");
+                int version = Lakes.register(lake, 0, text);
+                lake.read(0, version, 0);
+                CHECK.same(all[i] + " as " + word, Lakes.out(lake), due[i]);
+            }
+        }
+    }
+
+    private static void choicesAndFields() {
+        CHECK.says("ENUM: a varint, its symbol (0 the first); union: a varint, its branch, and a datum of that; record: its fields' in order");
+        ASK.as(enumOf(32));
+        for (int i = 0; i < 32; i++) {
+            ASK.rows(1, Lakes.varint(i));
+        }
+        ASK.as("[\"boolean\",\"null\",\"long\"]");
+        ASK.rows(1, 0, 1);
+        ASK.rows(1, 2);
+        ASK.rows(1, 4, 130, 0);
+        ASK.rows(3, 2, 0, 0, 4, 9);
+        ASK.fault(3, 1, 0, 2);
+        ASK.as(record("R", "a", "\"boolean\"", "b", "\"long\"", "c", "\"boolean\""));
+        ASK.rows(1, 1, 128, 0, 0);
+        ASK.rows(2, 1, 7, 0, 0, 7, 1);
+        ASK.fault(3, 0, 7, 1, 0);
+        ASK.fault(3, 2, 1, 0, 7);
     }
 
     private static void sizes() {

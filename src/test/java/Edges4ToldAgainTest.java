@@ -1,6 +1,7 @@
 /** Part 4 of the document, TOLD AGAIN, and promises 9 and 13: each sentence that names an edge, on both of its sides. */
 public final class Edges4ToldAgainTest {
     private static final Check CHECK = new Check();
+    private static final FitAsker FITS = new FitAsker(CHECK);
     private static final String[] WORDS = {"\"null\"", "\"boolean\"", "\"int\"", "\"long\"", "\"bytes\"", "\"string\""};
     private static final String UNRESOLVED = "UNRESOLVED";
     private static final String ENUM = "{\"type\":\"enum\",\"name\":\"E\",\"symbols\":[\"a\",\"b\"]}";
@@ -74,23 +75,6 @@ public final class Edges4ToldAgainTest {
         }
     }
 
-    private static boolean isFitting(String w, String r) {
-        RecordLake lake = new RecordLake();
-        CHECK.same("register " + w, Lakes.register(lake, 0, w), 0);
-        CHECK.same("register " + r, Lakes.register(lake, 1, r), 0);
-        boolean fits = lake.fits(0, 0, 1, 0);
-        CHECK.same("as a version behind it", Lakes.register(lake, 0, r), fits ? 1 : RecordLake.UNFIT);
-        return fits;
-    }
-
-    private static void fit(String w, String r) {
-        CHECK.yes(w + " fits " + r, isFitting(w, r));
-    }
-
-    private static void unfit(String w, String r) {
-        CHECK.no(w + " fits " + r, isFitting(w, r));
-    }
-
     private static void words() {
         CHECK.says("the same one of the six: as it is; INT as LONG; BYTES as STRING and STRING as BYTES: the same bytes");
         int[][] data = {{}, {1}, {255, 255, 255, 255, 15}, {254, 255, 255, 255, 255, 255, 255, 255, 255, 1}, {4, 0, 255}, {4, 0, 255}};
@@ -106,11 +90,7 @@ public final class Edges4ToldAgainTest {
         for (int w = 0; w < kinds.length; w++) {
             for (int r = 0; r < kinds.length; r++) {
                 told(kinds[w], kinds[r], w == r ? Lakes.numbers(Lakes.bytes(rows[w])) : UNRESOLVED, rows[w]);
-                if (w == r) {
-                    fit(kinds[w], kinds[r]);
-                } else {
-                    unfit(kinds[w], kinds[r]);
-                }
+                FITS.due(w == r, kinds[w], kinds[r]);
             }
         }
     }
@@ -170,8 +150,8 @@ public final class Edges4ToldAgainTest {
         told(FIXED, FIXED.replace("F", "f"), UNRESOLVED, 7, 8);
         told(FIXED, FIXED.replace("2", "1"), UNRESOLVED, 7, 8);
         told(FIXED, FIXED.replace("2", "3"), UNRESOLVED, 7, 8);
-        unfit(FIXED, FIXED.replace("2", "1"));
-        unfit(FIXED, FIXED.replace("\"F\"", "\"FF\""));
+        FITS.no(FIXED, FIXED.replace("2", "1"));
+        FITS.no(FIXED, FIXED.replace("\"F\"", "\"FF\""));
         String none = FIXED.replace("2", "0");
         told(none, none, "");
         told(FIXED, "[" + FIXED.replace("\"F\"", "\"G\"") + "," + FIXED + "]", "2 7 8", 7, 8);
@@ -211,7 +191,7 @@ public final class Edges4ToldAgainTest {
         // A default does not stand in where the writer has the field.
         told(two, record(field("a", "\"int\"", "1")), "14", 14, 2, 7);
         told(two, record(field("a", "\"string\"", "\"x\"")), UNRESOLVED, 14, 2, 7);
-        unfit(two, record(field("a", "\"string\"", "\"x\"")));
+        FITS.no(two, record(field("a", "\"string\"", "\"x\"")));
         // The writer's own default is of no use.
         told(record(field("a", "\"int\"", "3")), record(field("b", "\"int\"")), UNRESOLVED, 14);
         // Fields are told apart by all of their letters.
@@ -379,21 +359,21 @@ public final class Edges4ToldAgainTest {
 
     private static void fitsUnions() {
         CHECK.says("w a union: all branches fit r.");
-        fit("[\"int\"]", "\"long\"");
-        fit("[\"int\",\"long\"]", "\"long\"");
-        unfit("[\"int\",\"long\"]", "\"int\"");
-        unfit("[\"int\",\"null\"]", "\"int\"");
-        unfit("[\"null\",\"int\"]", "\"int\"");
-        fit("[\"int\",\"null\"]", "[\"null\",\"int\",\"string\"]");
-        unfit("[\"int\",\"null\",\"string\"]", "[\"null\",\"int\"]");
+        FITS.yes("[\"int\"]", "\"long\"");
+        FITS.yes("[\"int\",\"long\"]", "\"long\"");
+        FITS.no("[\"int\",\"long\"]", "\"int\"");
+        FITS.no("[\"int\",\"null\"]", "\"int\"");
+        FITS.no("[\"null\",\"int\"]", "\"int\"");
+        FITS.yes("[\"int\",\"null\"]", "[\"null\",\"int\",\"string\"]");
+        FITS.no("[\"int\",\"null\",\"string\"]", "[\"null\",\"int\"]");
         CHECK.says("Else r a union: the first branch that matches w is there, and w fits it.");
-        fit("\"int\"", "[\"int\"]");
-        fit("\"int\"", "[\"string\",\"long\"]");
-        unfit("\"int\"", "[\"string\"]");
-        fit(ENUM, "[\"null\"," + ENUM + "]");
-        unfit(ENUM, "[\"null\"," + ENUM.replace("\"a\",", "") + "]");
-        unfit(array("\"int\""), "[" + array("[\"string\"]") + "]");
-        fit(array("\"int\""), "[" + array("[\"string\",\"int\"]") + "]");
+        FITS.yes("\"int\"", "[\"int\"]");
+        FITS.yes("\"int\"", "[\"string\",\"long\"]");
+        FITS.no("\"int\"", "[\"string\"]");
+        FITS.yes(ENUM, "[\"null\"," + ENUM + "]");
+        FITS.no(ENUM, "[\"null\"," + ENUM.replace("\"a\",", "") + "]");
+        FITS.no(array("\"int\""), "[" + array("[\"string\"]") + "]");
+        FITS.yes(array("\"int\""), "[" + array("[\"string\",\"int\"]") + "]");
     }
 
     private static void fitsRest() {
@@ -401,47 +381,47 @@ public final class Edges4ToldAgainTest {
         for (int w = 0; w < 6; w++) {
             for (int r = 0; r < 6; r++) {
                 boolean alike = w == r || w == 2 && r == 3 || w >= 4 && r >= 4;
-                CHECK.same(WORDS[w] + " fits " + WORDS[r], isFitting(WORDS[w], WORDS[r]) ? 1 : 0, alike ? 1 : 0);
-                CHECK.same("array", isFitting(array(WORDS[w]), array(WORDS[r])) ? 1 : 0, alike ? 1 : 0);
-                CHECK.same("map", isFitting(map(WORDS[w]), map(WORDS[r])) ? 1 : 0, alike ? 1 : 0);
+                FITS.due(alike, WORDS[w], WORDS[r]);
+                FITS.due(alike, array(WORDS[w]), array(WORDS[r]));
+                FITS.due(alike, map(WORDS[w]), map(WORDS[r]));
             }
         }
-        fit(FIXED, FIXED);
-        unfit(FIXED, FIXED.replace("F", "G"));
-        unfit(FIXED, FIXED.replace("2", "3"));
+        FITS.yes(FIXED, FIXED);
+        FITS.no(FIXED, FIXED.replace("F", "G"));
+        FITS.no(FIXED, FIXED.replace("2", "3"));
         CHECK.says("ENUM of the same name, and r has a default, or all symbols of w");
-        fit(ENUM, ENUM.replace("\"a\"", "\"c\",\"a\""));
-        unfit(ENUM, ENUM.replace("\"a\",", ""));
-        unfit(ENUM, ENUM.replace(",\"b\"", ""));
-        fit(ENUM, ENUM.replace("\"a\",\"b\"]", "\"c\"],\"default\":\"c\""));
-        unfit(ENUM, ENUM.replace("E", "D"));
-        unfit(ENUM.replace("]}", "],\"default\":\"b\"}"), ENUM.replace("\"a\",", ""));
+        FITS.yes(ENUM, ENUM.replace("\"a\"", "\"c\",\"a\""));
+        FITS.no(ENUM, ENUM.replace("\"a\",", ""));
+        FITS.no(ENUM, ENUM.replace(",\"b\"", ""));
+        FITS.yes(ENUM, ENUM.replace("\"a\",\"b\"]", "\"c\"],\"default\":\"c\""));
+        FITS.no(ENUM, ENUM.replace("E", "D"));
+        FITS.no(ENUM.replace("]}", "],\"default\":\"b\"}"), ENUM.replace("\"a\",", ""));
         CHECK.says("RECORD of the same name: each of r's fields is one of w's that fits it, or else has a default.");
         String a = field("a", "\"int\"");
-        fit(record(a), record(""));
-        unfit(record(""), record(a));
-        fit(record(""), record(field("a", "\"int\"", "0")));
-        fit(record(a), record(a.replace("int", "long")));
-        unfit(record(a.replace("int", "long")), record(a));
-        unfit(record(a), record(a).replace("R", "S"));
-        unfit(record(a), record(a + "," + field("b", "\"int\"")));
-        fit(record(a), record(field("b", "\"int\"", "0") + "," + a));
-        unfit(record(a), record(field("b", "\"int\"", "0") + "," + field("a", "\"null\"")));
+        FITS.yes(record(a), record(""));
+        FITS.no(record(""), record(a));
+        FITS.yes(record(""), record(field("a", "\"int\"", "0")));
+        FITS.yes(record(a), record(a.replace("int", "long")));
+        FITS.no(record(a.replace("int", "long")), record(a));
+        FITS.no(record(a), record(a).replace("R", "S"));
+        FITS.no(record(a), record(a + "," + field("b", "\"int\"")));
+        FITS.yes(record(a), record(field("b", "\"int\"", "0") + "," + a));
+        FITS.no(record(a), record(field("b", "\"int\"", "0") + "," + field("a", "\"null\"")));
     }
 
     private static void askedAlready() {
         CHECK.says("(Two, each as it stands in its text, that are being asked for already count as fitting.)");
         String list = record(field("v", "\"int\"") + "," + field("n", "[\"null\",\"R\"]"));
-        fit(list, list);
-        fit(list, list.replace("\"int\"", "\"long\""));
-        unfit(list.replace("\"int\"", "\"long\""), list);
-        fit(record(field("n", "\"R\"")), record(field("n", "\"R\"")));
+        FITS.yes(list, list);
+        FITS.yes(list, list.replace("\"int\"", "\"long\""));
+        FITS.no(list.replace("\"int\"", "\"long\""), list);
+        FITS.yes(record(field("n", "\"R\"")), record(field("n", "\"R\"")));
         // What does not fit stands behind the pair that is being asked for.
-        unfit(record(field("n", "[\"null\",\"R\"]") + "," + field("v", "\"long\"")), record(field("n", "[\"null\",\"R\"]") + "," + field("v", "\"int\"")));
+        FITS.no(record(field("n", "[\"null\",\"R\"]") + "," + field("v", "\"long\"")), record(field("n", "[\"null\",\"R\"]") + "," + field("v", "\"int\"")));
         // Two records of the same name at other places are other pairs.
         String inner = "{\"type\":\"record\",\"name\":\"S\",\"fields\":[" + field("r", "[\"null\",\"R\"]") + "," + field("x", "\"#\"") + "]}";
-        fit(record(field("s", inner.replace("#", "int"))), record(field("s", inner.replace("#", "long"))));
-        unfit(record(field("s", inner.replace("#", "long"))), record(field("s", inner.replace("#", "int"))));
+        FITS.yes(record(field("s", inner.replace("#", "int"))), record(field("s", inner.replace("#", "long"))));
+        FITS.no(record(field("s", inner.replace("#", "long"))), record(field("s", inner.replace("#", "int"))));
     }
 
     /** The datum that a tail is told from comes behind so many bytes that have been told. */

@@ -249,7 +249,23 @@ public final class Edges5DiskTest {
         CHECK.same("bytes: a varint for one row is a byte less", lake.file(3, 3), 4096);
         CHECK.same("a row of 4075 bytes", Lakes.load(lake, 1, 0, Lakes.join(Lakes.varint(4073), Lakes.many(4073, 1))), RecordLake.FULL);
         CHECK.same("read", lake.read(1, 0, 0), 4074);
-        CHECK.same("as NORMAL it may be less than the tape", Lakes.load(lake, 1, 0, Lakes.join(Lakes.bytes(128 | 2, 128, 128, 128, 128, 128, 128, 128, 128, 0, 7))), 1);
+        CHECK.says("(as NORMAL: so they count for FULL)");
+        // Ten blocks of an item each, whose numbers are wide, are one block as NORMAL.
+        Lakes.register(lake, 2, "{\"type\":\"array\",\"items\":\"bytes\"}");
+        byte[] item = Lakes.join(Lakes.varint(403), Lakes.many(403, 1));
+        byte[] rows = new byte[0];
+        for (int i = 0; i < 10; i++) {
+            rows = Lakes.join(rows, Lakes.bytes(130, 128, 0), item);
+        }
+        CHECK.same("a tape of 4081 bytes", Lakes.join(rows, Lakes.bytes(0)).length, 4081);
+        CHECK.same("is a row of 4052", Lakes.load(lake, 2, 0, Lakes.join(rows, Lakes.bytes(0))), 1);
+        CHECK.same("bytes", lake.file(5, 3), 11 + 1 + 2 + 4052 + 8);
+        byte[] most = Lakes.join(Lakes.varint(4072), Lakes.many(4072, 1));
+        Lakes.register(lake, 3, "\"string\"");
+        CHECK.same("4096 bytes, though its tape has more", Lakes.load(lake, 3, 0, Lakes.join(Lakes.bytes(most[0] & 255, 128 | most[1], 128, 0),
+                Lakes.many(4072, 1))), 1);
+        CHECK.same("bytes", lake.file(7, 3), 4096);
+        CHECK.same("4097 bytes", Lakes.load(lake, 3, 0, Lakes.join(Lakes.varint(4073), Lakes.many(4073, 1))), RecordLake.FULL);
     }
 
     private static void full() {

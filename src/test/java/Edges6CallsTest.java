@@ -19,6 +19,7 @@ public final class Edges6CallsTest {
         namedFirst();
         whileDown();
         argumentsWhileDown();
+        listLength();
         newObject();
         feeds();
         ends();
@@ -329,6 +330,25 @@ public final class Edges6CallsTest {
         CHECK.state("start", lake::start);
     }
 
+    private static void listLength() {
+        CHECK.says("How many files the list has; DOWN.");
+        RecordLake lake = new RecordLake();
+        CHECK.same("none", lake.files(), 0);
+        Lakes.register(lake, 0, "\"int\"");
+        for (int n = 1; n <= 40; n++) {
+            CHECK.same("files()", lake.files(), n);
+            Lakes.load(lake, 0, 0, 2);
+        }
+        CHECK.same("40 at most", lake.files(), 40);
+        lake.power(0);
+        lake.clear(0);
+        CHECK.same("DOWN", lake.files(), RecordLake.DOWN);
+        lake.start();
+        CHECK.same("40 again", lake.files(), 40);
+        CHECK.same("clear", lake.clear(0), 39);
+        CHECK.same("one", lake.files(), 1);
+    }
+
     private static void newObject() {
         CHECK.says("An empty tape, an empty disk, no subject has a version.");
         RecordLake lake = new RecordLake();
@@ -407,6 +427,30 @@ public final class Edges6CallsTest {
         }
         CHECK.same("no version", lake.count(0, 0), 0);
         refusedTexts();
+        registersPlainForm();
+    }
+
+    private static void registersPlainForm() {
+        CHECK.says("The plain form as by schema(), but for DOWN.");
+        RecordLake lake = new RecordLake();
+        for (int v = 0; v < 16; v++) {
+            Lakes.register(lake, 0, "\"int\"");
+        }
+        String[] texts = {" {\"type\":\"null\"}", " \"long\"", "[ \"null\" ]", "\"foo\"", "[]"};
+        int[] due = {RecordLake.UNFIT, RecordLake.FULL, 0, -3, -5};
+        String[] forms = {"\"null\"", "\"long\"", "[\"null\"]", "", ""};
+        for (int i = 0; i < texts.length; i++) {
+            Lakes.tape(lake, texts[i]);
+            CHECK.same("register", lake.register(i < 2 ? 0 : 1), due[i]);
+            CHECK.same("the plain form", Lakes.plain(lake), forms[i]);
+        }
+        lake.power(0);
+        CHECK.same("LOST", Lakes.register(lake, 2, "{\"type\":\"bytes\"}"), RecordLake.LOST);
+        CHECK.same("the plain form with LOST", Lakes.plain(lake), "\"bytes\"");
+        CHECK.same("DOWN", Lakes.register(lake, 1, "\"int\""), RecordLake.DOWN);
+        CHECK.same("the plain form with DOWN", Lakes.plain(lake), "\"bytes\"");
+        lake.start();
+        CHECK.same("the plain form behind start()", Lakes.plain(lake), "\"bytes\"");
     }
 
     /** Texts that are only looked at, or refused, leave all versions as they are. */

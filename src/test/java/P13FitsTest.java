@@ -1,6 +1,7 @@
 /** Promise 13: whether a version fits another. */
 public final class P13FitsTest {
     private static final Check CHECK = new Check();
+    private static final FitAsker FITS = new FitAsker(CHECK);
     private static final String[] WORDS = {"null", "boolean", "int", "long", "bytes", "string"};
 
     public static void main(String[] args) {
@@ -14,24 +15,6 @@ public final class P13FitsTest {
         doubling();
         late();
         CHECK.finish("P13FitsTest");
-    }
-
-    private static boolean fits(String w, String r) {
-        RecordLake lake = new RecordLake();
-        CHECK.same("register " + w, Lakes.register(lake, 0, w), 0);
-        CHECK.same("register " + r, Lakes.register(lake, 1, r), 0);
-        boolean fits = lake.fits(0, 0, 1, 0);
-        // register holds it against the version before it just so.
-        CHECK.same("as a version behind it", Lakes.register(lake, 0, r), fits ? 1 : RecordLake.UNFIT);
-        return fits;
-    }
-
-    private static void yes(String w, String r) {
-        CHECK.yes(w + " fits " + r, fits(w, r));
-    }
-
-    private static void no(String w, String r) {
-        CHECK.no(w + " fits " + r, fits(w, r));
     }
 
     private static void calls() {
@@ -63,49 +46,49 @@ public final class P13FitsTest {
             for (String r : WORDS) {
                 boolean due = w.equals(r) || w.equals("int") && r.equals("long")
                         || (w.equals("bytes") || w.equals("string")) && (r.equals("bytes") || r.equals("string"));
-                CHECK.same(w + " fits " + r, fits("\"" + w + "\"", "\"" + r + "\"") ? 1 : 0, due ? 1 : 0);
+                FITS.due(due, "\"" + w + "\"", "\"" + r + "\"");
             }
         }
     }
 
     private static void unions() {
-        yes("[\"int\",\"null\"]", "[\"null\",\"long\"]");
-        no("[\"int\",\"null\"]", "[\"long\"]");
-        no("[\"int\",\"null\"]", "\"long\"");
-        yes("[\"int\"]", "\"long\"");
-        yes("\"int\"", "[\"string\",\"int\"]");
-        no("\"int\"", "[\"string\",\"null\"]");
+        FITS.yes("[\"int\",\"null\"]", "[\"null\",\"long\"]");
+        FITS.no("[\"int\",\"null\"]", "[\"long\"]");
+        FITS.no("[\"int\",\"null\"]", "\"long\"");
+        FITS.yes("[\"int\"]", "\"long\"");
+        FITS.yes("\"int\"", "[\"string\",\"int\"]");
+        FITS.no("\"int\"", "[\"string\",\"null\"]");
         // The first branch that matches is asked for, and no other.
         String longs = "{\"type\":\"array\",\"items\":\"long\"}";
-        yes("{\"type\":\"array\",\"items\":\"int\"}", "[\"null\"," + longs + "]");
-        no("{\"type\":\"array\",\"items\":\"string\"}", "[\"null\"," + longs + "]");
-        no("{\"type\":\"array\",\"items\":[\"string\"]}", "[\"null\"," + longs + "]");
+        FITS.yes("{\"type\":\"array\",\"items\":\"int\"}", "[\"null\"," + longs + "]");
+        FITS.no("{\"type\":\"array\",\"items\":\"string\"}", "[\"null\"," + longs + "]");
+        FITS.no("{\"type\":\"array\",\"items\":[\"string\"]}", "[\"null\"," + longs + "]");
     }
 
     private static void rows() {
-        yes("{\"type\":\"array\",\"items\":\"int\"}", "{\"type\":\"array\",\"items\":[\"null\",\"long\"]}");
-        no("{\"type\":\"array\",\"items\":\"int\"}", "{\"type\":\"map\",\"values\":\"int\"}");
-        yes("{\"type\":\"map\",\"values\":\"int\"}", "{\"type\":\"map\",\"values\":\"long\"}");
-        no("{\"type\":\"map\",\"values\":\"long\"}", "{\"type\":\"map\",\"values\":\"int\"}");
-        no("{\"type\":\"map\",\"values\":\"int\"}", "\"int\"");
+        FITS.yes("{\"type\":\"array\",\"items\":\"int\"}", "{\"type\":\"array\",\"items\":[\"null\",\"long\"]}");
+        FITS.no("{\"type\":\"array\",\"items\":\"int\"}", "{\"type\":\"map\",\"values\":\"int\"}");
+        FITS.yes("{\"type\":\"map\",\"values\":\"int\"}", "{\"type\":\"map\",\"values\":\"long\"}");
+        FITS.no("{\"type\":\"map\",\"values\":\"long\"}", "{\"type\":\"map\",\"values\":\"int\"}");
+        FITS.no("{\"type\":\"map\",\"values\":\"int\"}", "\"int\"");
     }
 
     private static void names() {
         String f = "{\"type\":\"fixed\",\"name\":\"F\",\"size\":2}";
-        yes(f, f);
-        no(f, f.replace("F", "G"));
-        no(f, f.replace("2", "3"));
-        no(f, "\"bytes\"");
-        no(f, "{\"type\":\"enum\",\"name\":\"F\",\"symbols\":[\"a\"]}");
+        FITS.yes(f, f);
+        FITS.no(f, f.replace("F", "G"));
+        FITS.no(f, f.replace("2", "3"));
+        FITS.no(f, "\"bytes\"");
+        FITS.no(f, "{\"type\":\"enum\",\"name\":\"F\",\"symbols\":[\"a\"]}");
         String e = "{\"type\":\"enum\",\"name\":\"E\",\"symbols\":[\"a\",\"b\"]}";
-        yes(e, e.replace("\"a\",\"b\"", "\"c\",\"b\",\"a\""));
-        no(e, e.replace(",\"b\"", ""));
-        no(e, e.replace("\"a\",", ""));
-        yes(e, e.replace(",\"b\"]", "],\"default\":\"a\""));
-        no(e, e.replace("E", "E1").replace("]", "],\"default\":\"a\""));
-        no(e, e.replace("E", "Ea"));
+        FITS.yes(e, e.replace("\"a\",\"b\"", "\"c\",\"b\",\"a\""));
+        FITS.no(e, e.replace(",\"b\"", ""));
+        FITS.no(e, e.replace("\"a\",", ""));
+        FITS.yes(e, e.replace(",\"b\"]", "],\"default\":\"a\""));
+        FITS.no(e, e.replace("E", "E1").replace("]", "],\"default\":\"a\""));
+        FITS.no(e, e.replace("E", "Ea"));
         // The reader's default counts, not the writer's.
-        no(e.replace("]", "],\"default\":\"a\""), e.replace(",\"b\"", ""));
+        FITS.no(e.replace("]", "],\"default\":\"a\""), e.replace(",\"b\"", ""));
     }
 
     private static String record(String fields) {
@@ -115,28 +98,28 @@ public final class P13FitsTest {
     private static void records() {
         String a = "{\"name\":\"a\",\"type\":\"int\"}";
         String b = "{\"name\":\"b\",\"type\":\"string\"}";
-        yes(record(a + "," + b), record(b + "," + a));
-        yes(record(a + "," + b), record(""));
-        no(record(a), record(a + "," + b));
-        yes(record(a), record(a + "," + b.replace("}", ",\"default\":\"\"}")));
-        no(record(a), record(a).replace("R", "S"));
-        no(record(a), record(b.replace("\"b\"", "\"a\"")));
+        FITS.yes(record(a + "," + b), record(b + "," + a));
+        FITS.yes(record(a + "," + b), record(""));
+        FITS.no(record(a), record(a + "," + b));
+        FITS.yes(record(a), record(a + "," + b.replace("}", ",\"default\":\"\"}")));
+        FITS.no(record(a), record(a).replace("R", "S"));
+        FITS.no(record(a), record(b.replace("\"b\"", "\"a\"")));
         // A default does not help where the field is there and does not fit: its datum would be told.
-        no(record(a), record("{\"name\":\"a\",\"type\":\"string\",\"default\":\"x\"}"));
-        yes(record(a), record("{\"name\":\"a\",\"type\":[\"null\",\"long\"],\"default\":null}"));
-        no(record(""), record(a));
+        FITS.no(record(a), record("{\"name\":\"a\",\"type\":\"string\",\"default\":\"x\"}"));
+        FITS.yes(record(a), record("{\"name\":\"a\",\"type\":[\"null\",\"long\"],\"default\":null}"));
+        FITS.no(record(""), record(a));
     }
 
     private static void recursive() {
         String list = record("{\"name\":\"n\",\"type\":[\"null\",\"R\"]}");
-        yes(list, list);
-        yes(list, record("{\"name\":\"n\",\"type\":[\"R\",\"null\"]}"));
-        no(list, record("{\"name\":\"n\",\"type\":[\"R\",\"int\"]}"));
-        yes(list, record("{\"name\":\"n\",\"type\":[\"R\",\"null\"]},{\"name\":\"v\",\"type\":\"int\",\"default\":0}"));
-        no(list, record("{\"name\":\"n\",\"type\":[\"R\",\"null\"]},{\"name\":\"v\",\"type\":\"int\"}"));
-        yes(record("{\"name\":\"n\",\"type\":\"R\"}"), record("{\"name\":\"n\",\"type\":\"R\"}"));
+        FITS.yes(list, list);
+        FITS.yes(list, record("{\"name\":\"n\",\"type\":[\"R\",\"null\"]}"));
+        FITS.no(list, record("{\"name\":\"n\",\"type\":[\"R\",\"int\"]}"));
+        FITS.yes(list, record("{\"name\":\"n\",\"type\":[\"R\",\"null\"]},{\"name\":\"v\",\"type\":\"int\",\"default\":0}"));
+        FITS.no(list, record("{\"name\":\"n\",\"type\":[\"R\",\"null\"]},{\"name\":\"v\",\"type\":\"int\"}"));
+        FITS.yes(record("{\"name\":\"n\",\"type\":\"R\"}"), record("{\"name\":\"n\",\"type\":\"R\"}"));
         // What does not fit lies behind a pair that is being asked for.
-        no(record("{\"name\":\"n\",\"type\":[\"null\",\"R\"]},{\"name\":\"v\",\"type\":\"long\"}"),
+        FITS.no(record("{\"name\":\"n\",\"type\":[\"null\",\"R\"]},{\"name\":\"v\",\"type\":\"long\"}"),
                 record("{\"name\":\"n\",\"type\":[\"null\",\"R\"]},{\"name\":\"v\",\"type\":\"int\"}"));
     }
 
@@ -169,8 +152,8 @@ public final class P13FitsTest {
             w.append("]}");
         }
         String all = w + "]";
-        yes(all, all);
-        yes(all, all.replace("\"int\"", "\"long\""));
-        no(all.replace("\"int\"", "\"long\""), all);
+        FITS.yes(all, all);
+        FITS.yes(all, all.replace("\"int\"", "\"long\""));
+        FITS.no(all.replace("\"int\"", "\"long\""), all);
     }
 }
