@@ -2379,7 +2379,7 @@ public final class RecordLake {
             return Math.max(1, (n + BLOCK_BYTES - 1) / BLOCK_BYTES);
         }
 
-        /** False when power went: then no block behind the torn one is written. */
+        /** False when power went: then only half of a block is written, and none behind it. */
         boolean writeFile(int first, Bytes content) {
             for (int i = 0; i < blocksOf(content.length); i++) {
                 if (!writeBlock(first + i, content, i * BLOCK_BYTES)) {
@@ -2407,8 +2407,8 @@ public final class RecordLake {
     /** The list of all files, in memory and in its block. */
     private static final class FileList {
         // The block: which list this is, how many files it has, six bytes for each, and which list this is once
-        // more. The block has never held a list of this number: torn, it tells two numbers, whatever files there
-        // are. (A print of the files would not do: two lists can have the same.)
+        // more. Its second half has never held this number, and keeps an older one when the block is torn: so it
+        // tells two then, whatever files there are. (A print would not do: two blocks can have the same.)
         private static final int TURN_BYTES = 4;
         private static final int FILES_AT = TURN_BYTES + 1;
         private static final int FILE_BYTES = 6;
